@@ -51,7 +51,9 @@ public final class FaultsTest {
         due(2, 0, "the soprano down by 1", notes(2, 7, 9, 20), notes(1, 7, 9, 19));
         due(2, 0, "the bass down", notes(2, 7, 9, 17), notes(1, 7, 9, 19));
         due(2, 0, "the bass up, the soprano down", notes(0, 7, 9, 21), notes(1, 7, 9, 19));
-        due(2, 0, "the bass stays", notes(1, 7, 9, 17), notes(1, 7, 9, 19));
+        due(2, 0, "the bass stays, the soprano up", notes(1, 7, 9, 17), notes(1, 7, 9, 19));
+        due(2, 0, "the bass stays, the soprano down", notes(1, 7, 9, 21), notes(1, 7, 9, 19));
+        due(2, 0, "the bass down, the soprano stays", notes(2, 7, 9, 19), notes(1, 7, 9, 19));
         due(2, 1, "up to an octave", notes(0, 7, 9, 13), notes(1, 7, 9, 15));
         due(2, 1, "down to one and the same note", notes(13, 7, 9, 14), notes(12, 7, 9, 12));
         due(2, 0, "up to a third", notes(0, 7, 9, 15), notes(1, 7, 9, 17));

@@ -16,13 +16,13 @@ public final class WouldTest {
 
     private static void would() {
         FiguredBass x = Rows.someRow();
+        CHECK.changesNothing(x, "would(1, 2, 18)", () -> x.would(1, 2, 18));
+        CHECK.changesNothing(x, "would(1, 2, -1)", () -> x.would(1, 2, -1));
         CHECK.same("would(2, 2, 14), as it is", x.would(2, 2, 14), 44);
         CHECK.same("would(2, 1, 7)", x.would(2, 1, 7), 45);
         CHECK.same("would(0, 1, -1)", x.would(0, 1, -1), 35);
         CHECK.same("would(1, 1, -1)", x.would(1, 1, -1), 30);
         CHECK.same("would(2, 3, -1)", x.would(2, 3, -1), 9);
-        CHECK.changesNothing(x, "would(1, 2, 18)", () -> x.would(1, 2, 18));
-        CHECK.changesNothing(x, "would(1, 2, -1)", () -> x.would(1, 2, -1));
         x.put(1, 2, -1);
         CHECK.same("would(1, 2, 12) of none", x.would(1, 2, 12), 44);
         CHECK.same("note(1, 2)", x.note(1, 2), -1);
@@ -59,14 +59,14 @@ public final class WouldTest {
         CHECK.same("best(0) ahead of a set one", x.best(0), 9 * 784 + 11 * 28 + 14);
         Rows.putAll(x, 0, 7, 11, 16);
         x.setBass(1, 1);
-        CHECK.same("best(1)", x.best(1), 5 * 784 + 10 * 28 + 15);
         CHECK.changesNothing(x, "best(1)", () -> x.best(1));
+        CHECK.same("best(1)", x.best(1), 5 * 784 + 10 * 28 + 15);
         Rows.weighAll(x, 0);
         CHECK.same("best(1) without weights", x.best(1), 8 * 784 + 12 * 28 + 17);
         x.setBass(1, 13);
         x.setFigure(1, 3);
-        CHECK.same("best(1) without ways", x.best(1), -1);
         CHECK.changesNothing(x, "best(1) without ways", () -> x.best(1));
+        CHECK.same("best(1) without ways", x.best(1), -1);
         for (int wrong : new int[] {-1, 2, 12, Integer.MIN_VALUE, Integer.MAX_VALUE}) {
             CHECK.refused(x, "best(" + wrong + ")", Rows.NO_INDEX, () -> x.best(wrong));
         }
@@ -77,16 +77,20 @@ public final class WouldTest {
     private static void advise() {
         FiguredBass x = new FiguredBass();
         x.chord(13, 3);
+        CHECK.changesNothing(x, "advise(0) of one without notes", () -> x.advise(0));
         CHECK.same("advise(0), the smallest of several", x.advise(0), 0);
         x.setBass(0, 0);
         x.setFigure(0, 0);
         Rows.putAll(x, 0, 7, 11, 16);
         x.chord(5, 1);
-        CHECK.same("advise(1), all can stay with the figure 3", x.advise(1), 3);
         CHECK.changesNothing(x, "advise(1) of one without notes", () -> x.advise(1));
+        CHECK.same("advise(1), all can stay with the figure 3", x.advise(1), 3);
         Rows.putAll(x, 1, 14, 8, 12);
-        CHECK.same("advise(1), whatever it had", x.advise(1), 3);
         CHECK.changesNothing(x, "advise(1)", () -> x.advise(1));
+        CHECK.same("advise(1), whatever it had", x.advise(1), 3);
+        x.setBass(1, 13);
+        // With 0 it costs 15, with 1, 2 and 4 more; with 3 and 5 it cannot be led.
+        CHECK.same("advise(1) above the bass 13", x.advise(1), 0);
         for (int wrong : new int[] {-1, 2, 12, Integer.MIN_VALUE, Integer.MAX_VALUE}) {
             CHECK.refused(x, "advise(" + wrong + ")", Rows.NO_INDEX, () -> x.advise(wrong));
         }
@@ -100,8 +104,8 @@ public final class WouldTest {
         // With the figure 3 all could stay, but for the leading note, which does not go up.
         CHECK.same("advise(0)", x.advise(0), 0);
         x.setWeight(5, 0);
+        CHECK.changesNothing(x, "advise(0) ahead of a set one", () -> x.advise(0));
         CHECK.same("advise(0), leading notes free", x.advise(0), 3);
-        CHECK.changesNothing(x, "advise(0)", () -> x.advise(0));
     }
 
     // Promise 21

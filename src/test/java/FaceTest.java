@@ -1,0 +1,110 @@
+import java.lang.reflect.Constructor;
+import java.lang.reflect.Field;
+import java.lang.reflect.Method;
+import java.lang.reflect.Modifier;
+import java.util.ArrayList;
+import java.util.Arrays;
+import java.util.HashSet;
+import java.util.List;
+import java.util.Set;
+import java.util.TreeSet;
+
+/** The public face is that of the document, and nothing more can be seen (LANGUAGE.md, 1 and 5). */
+public final class FaceTest {
+    private static final String[] FACE = {
+        "int advise(int) IndexOutOfBoundsException",
+        "int best(int) IndexOutOfBoundsException",
+        "int chord(int, int) IllegalArgumentException IllegalStateException",
+        "int count(int) IndexOutOfBoundsException",
+        "int drop() IllegalStateException",
+        "int faults(int, int) IndexOutOfBoundsException",
+        "int lead(int) IndexOutOfBoundsException IllegalStateException",
+        "int leadAll()",
+        "int note(int, int) IndexOutOfBoundsException",
+        "int pitch(int) IllegalArgumentException",
+        "int put(int, int, int) IndexOutOfBoundsException IllegalArgumentException",
+        "int setBass(int, int) IndexOutOfBoundsException IllegalArgumentException",
+        "int setFigure(int, int) IndexOutOfBoundsException IllegalArgumentException",
+        "int setWeight(int, int) IndexOutOfBoundsException IllegalArgumentException",
+        "int told(int, int) IndexOutOfBoundsException",
+        "int ways(int) IndexOutOfBoundsException",
+        "int would(int, int, int) IndexOutOfBoundsException IllegalArgumentException",
+        "boolean fits(int, int, int) IndexOutOfBoundsException IllegalArgumentException",
+        "boolean setKey(boolean)",
+        "double mean()",
+        "long digest()",
+    };
+
+    private static final List<String> WRONG = new ArrayList<>();
+
+    public static void main(String[] args) {
+        theClassIsPublicAndFinal();
+        oneConstructor();
+        theMethods();
+        theFields();
+        WRONG.forEach(System.out::println);
+        System.out.println(WRONG.size() + " wrong things about the face");
+        if (!WRONG.isEmpty()) {
+            System.exit(1);
+        }
+    }
+
+    private static void theClassIsPublicAndFinal() {
+        int modifiers = FiguredBass.class.getModifiers();
+        holds(Modifier.isPublic(modifiers) && Modifier.isFinal(modifiers), "the class is public and final");
+        holds(FiguredBass.class.getSuperclass() == Object.class, "the class extends nothing");
+        holds(FiguredBass.class.getInterfaces().length == 0, "the class implements nothing");
+    }
+
+    private static void oneConstructor() {
+        Constructor<?>[] all = FiguredBass.class.getDeclaredConstructors();
+        holds(all.length == 1, "there is one constructor");
+        holds(Modifier.isPublic(all[0].getModifiers()), "the constructor is public");
+        holds(all[0].getParameterCount() == 0, "the constructor has no parameters");
+        holds(all[0].getExceptionTypes().length == 0, "the constructor declares no exceptions");
+    }
+
+    private static void theMethods() {
+        Set<String> seen = new TreeSet<>();
+        Set<String> publicNames = new HashSet<>();
+        Set<String> privateNames = new HashSet<>();
+        for (Method method : FiguredBass.class.getDeclaredMethods()) {
+            if (Modifier.isPrivate(method.getModifiers())) {
+                privateNames.add(method.getName());
+            } else {
+                seen.add(textOf(method));
+                publicNames.add(method.getName());
+                holds(method.getModifiers() == Modifier.PUBLIC, method.getName() + " is public, and no more");
+            }
+        }
+        holds(seen.equals(new TreeSet<>(Arrays.asList(FACE))), "the methods are those of the face, not " + seen);
+        privateNames.retainAll(publicNames);
+        holds(privateNames.isEmpty(), "no private method bears the name of a public one: " + privateNames);
+    }
+
+    private static String textOf(Method method) {
+        StringBuilder text = new StringBuilder(method.getReturnType() + " " + method.getName() + "(");
+        for (int k = 0; k < method.getParameterCount(); k++) {
+            text.append(k == 0 ? "" : ", ").append(method.getParameterTypes()[k]);
+        }
+        text.append(")");
+        for (Class<?> exception : method.getExceptionTypes()) {
+            text.append(" ").append(exception.getSimpleName());
+        }
+        return text.toString();
+    }
+
+    private static void theFields() {
+        for (Field field : FiguredBass.class.getDeclaredFields()) {
+            int modifiers = field.getModifiers();
+            holds(Modifier.isPrivate(modifiers), field.getName() + " is private");
+            holds(!Modifier.isStatic(modifiers) || Modifier.isFinal(modifiers), field.getName() + " is final");
+        }
+    }
+
+    private static void holds(boolean holds, String text) {
+        if (!holds) {
+            WRONG.add("wrong: " + text);
+        }
+    }
+}
