@@ -143,7 +143,7 @@ public final class FaultsTest {
     }
 
     private static int[] notes(int bass, int tenor, int alto, int soprano) {
-        return new int[] {bass, tenor, alto, soprano};
+        return Rows.notes(bass, tenor, alto, soprano);
     }
 
     private static void due(int fault, int due, String text, int[] ahead, int[] here) {
@@ -151,9 +151,7 @@ public final class FaultsTest {
     }
 
     private static void due(int fault, int due, String text, int figureAhead, int[] ahead, int figure, int[] here) {
-        FiguredBass x = new FiguredBass();
-        Rows.add(x, ahead[0], figureAhead, ahead[1], ahead[2], ahead[3]);
-        Rows.add(x, here[0], figure, here[1], here[2], here[3]);
+        FiguredBass x = Rows.two(figureAhead, ahead, figure, here);
         CHECK.same("fault " + fault + ", " + text, x.faults(1, fault), due);
         // What it costs more with the weight 9 than with 0 is nine times as much.
         x.setWeight(fault, 0);

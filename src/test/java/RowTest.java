@@ -212,10 +212,10 @@ public final class RowTest {
         FiguredBass x = new FiguredBass();
         x.chord(0, 0);
         CHECK.same("lead(0), alone", x.lead(0), 0);
-        notesAre(x, 0, 7, 9, 18);
+        CHECK.notesAre(x, 0, 7, 9, 18);
         Rows.putAll(x, 0, 14, 9, 12);
         CHECK.same("lead(0), whatever it had", x.lead(0), 0);
-        notesAre(x, 0, 7, 9, 18);
+        CHECK.notesAre(x, 0, 7, 9, 18);
         CHECK.same("told(0, 3)", x.told(0, 3), 1);
     }
 
@@ -225,11 +225,11 @@ public final class RowTest {
         x.chord(1, 0);
         // 5, 10, 15 and 5, 10, 17 cost the same; 8, 12, 17 is nearest, but in fifths and octaves.
         CHECK.same("lead(1)", x.lead(1), 4);
-        notesAre(x, 1, 5, 10, 15);
+        CHECK.notesAre(x, 1, 5, 10, 15);
         Rows.weighAll(x, 0);
         CHECK.same("lead(1) without weights", x.lead(1), 3);
-        notesAre(x, 1, 8, 12, 17);
-        notesAre(x, 0, 7, 11, 16);
+        CHECK.notesAre(x, 1, 8, 12, 17);
+        CHECK.notesAre(x, 0, 7, 11, 16);
     }
 
     private static void leadHeedsTheNextChord() {
@@ -237,14 +237,14 @@ public final class RowTest {
         x.chord(0, 0);
         Rows.add(x, 0, 0, 9, 11, 14);
         CHECK.same("lead(0) ahead of a set one", x.lead(0), 0);
-        notesAre(x, 0, 9, 11, 14);
-        notesAre(x, 1, 9, 11, 14);
+        CHECK.notesAre(x, 0, 9, 11, 14);
+        CHECK.notesAre(x, 1, 9, 11, 14);
         x.put(1, 3, 15);
         CHECK.same("lead(0) ahead of one that is not right", x.lead(0), 0);
-        notesAre(x, 0, 9, 11, 14);
+        CHECK.notesAre(x, 0, 9, 11, 14);
         x.put(1, 3, -1);
         CHECK.same("lead(0) ahead of one that is not set", x.lead(0), 0);
-        notesAre(x, 0, 7, 9, 18);
+        CHECK.notesAre(x, 0, 7, 9, 18);
     }
 
     private static void leadRefuses() {
@@ -266,9 +266,9 @@ public final class RowTest {
         x.chord(13, 3);
         x.chord(0, 0);
         CHECK.same("leadAll()", x.leadAll(), 2);
-        notesAre(x, 1, 13, 15, 17);
-        notesAre(x, 2, -1, -1, -1);
-        notesAre(x, 3, 7, 9, 18);
+        CHECK.notesAre(x, 1, 13, 15, 17);
+        CHECK.notesAre(x, 2, -1, -1, -1);
+        CHECK.notesAre(x, 3, 7, 9, 18);
     }
 
     private static void leadAllGoesByTheRowAsItIsThen() {
@@ -276,21 +276,15 @@ public final class RowTest {
         Rows.add(x, 0, 0, 7, 9, 18);
         Rows.add(x, 0, 0, 9, 11, 14);
         CHECK.same("leadAll()", x.leadAll(), 2);
-        notesAre(x, 0, 9, 11, 14);
-        notesAre(x, 1, 9, 11, 14);
+        CHECK.notesAre(x, 0, 9, 11, 14);
+        CHECK.notesAre(x, 1, 9, 11, 14);
         x = new FiguredBass();
         Rows.add(x, 0, 0, 7, 11, 16);
         x.chord(0, 0);
         x.chord(1, 0);
         CHECK.same("leadAll()", x.leadAll(), 3);
-        notesAre(x, 0, 7, 9, 18);
-        notesAre(x, 1, 7, 9, 18);
+        CHECK.notesAre(x, 0, 7, 9, 18);
+        CHECK.notesAre(x, 1, 7, 9, 18);
         CHECK.same("count(2)", x.count(2), 3);
-    }
-
-    private static void notesAre(FiguredBass x, int chord, int tenor, int alto, int soprano) {
-        CHECK.same("tenor of " + chord, x.note(chord, 1), tenor);
-        CHECK.same("alto of " + chord, x.note(chord, 2), alto);
-        CHECK.same("soprano of " + chord, x.note(chord, 3), soprano);
     }
 }

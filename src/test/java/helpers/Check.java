@@ -2,6 +2,12 @@
 final class Check {
     private int asked = 0;
     private int wrong = 0;
+    private String sentence = "";
+
+    /** The sentence of the document that is asked from here on; it stands ahead of each wrong answer. */
+    void sentence(String text) {
+        sentence = "[" + text + "] ";
+    }
 
     void same(String call, long got, long due) {
         asked++;
@@ -19,6 +25,23 @@ final class Check {
 
     void same(String call, boolean got, boolean due) {
         same(call, got ? 1L : 0L, due ? 1L : 0L);
+    }
+
+    /** The upper voices of a chord have these notes. */
+    void notesAre(FiguredBass object, int chord, int tenor, int alto, int soprano) {
+        same("tenor of " + chord, object.note(chord, 1), tenor);
+        same("alto of " + chord, object.note(chord, 2), alto);
+        same("soprano of " + chord, object.note(chord, 3), soprano);
+    }
+
+    /** The call throws nothing. */
+    void taken(String call, Runnable run) {
+        asked++;
+        try {
+            run.run();
+        } catch (RuntimeException e) {
+            wrong(call + " throws " + e + ", due is an answer");
+        }
     }
 
     /** The call throws just the exception that is due, and the object tells the same as before. */
@@ -52,6 +75,6 @@ final class Check {
 
     private void wrong(String text) {
         wrong++;
-        System.out.println(text);
+        System.out.println(sentence + text);
     }
 }

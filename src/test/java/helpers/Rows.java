@@ -28,6 +28,27 @@ final class Rows {
         }
     }
 
+    /** Some chords, all set, each with another bass and figure than the one ahead. */
+    static FiguredBass rowOf(int size) {
+        FiguredBass x = new FiguredBass();
+        for (int chord = 0; chord < size; chord++) {
+            add(x, chord, chord % 6, 5 + chord % 10, 18 - chord % 11, 12 + chord % 11);
+        }
+        return x;
+    }
+
+    /** Two chords, each by its figure, and its notes of bass, tenor, alto and soprano. */
+    static FiguredBass two(int figureAhead, int[] ahead, int figure, int[] here) {
+        FiguredBass x = new FiguredBass();
+        add(x, ahead[0], figureAhead, ahead[1], ahead[2], ahead[3]);
+        add(x, here[0], figure, here[1], here[2], here[3]);
+        return x;
+    }
+
+    static int[] notes(int bass, int tenor, int alto, int soprano) {
+        return new int[] {bass, tenor, alto, soprano};
+    }
+
     /** Three chords, all set, the last one not right, with faults of several kinds. */
     static FiguredBass someRow() {
         FiguredBass x = new FiguredBass();
