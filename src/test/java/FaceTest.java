@@ -1,3 +1,4 @@
+import java.io.IOException;
 import java.lang.reflect.Constructor;
 import java.lang.reflect.Field;
 import java.lang.reflect.Method;
@@ -9,7 +10,10 @@ import java.util.List;
 import java.util.Set;
 import java.util.TreeSet;
 
-/** The public face is that of the document, and nothing more can be seen (LANGUAGE.md, 1 and 5). */
+/**
+ * The public face is that of the document, in its order and under its headings, and nothing more can be
+ * seen (LANGUAGE.md, 1 and 5).
+ */
 public final class FaceTest {
     private static final String[] FACE = {
         "int advise(int) IndexOutOfBoundsException",
@@ -35,13 +39,45 @@ public final class FaceTest {
         "long digest()",
     };
 
+    /** 'The public face' as the document writes it, and the headings that 'the interface says'. */
+    private static final String[] WRITTEN = {
+        "public final class FiguredBass",
+        "public FiguredBass()",
+        "// ---- the row.",
+        "public int chord(int bass, int figure) throws IllegalArgumentException, IllegalStateException",
+        "public int setBass(int chord, int bass) throws IndexOutOfBoundsException, IllegalArgumentException",
+        "public int setFigure(int chord, int figure) throws IndexOutOfBoundsException, IllegalArgumentException",
+        "public int put(int chord, int voice, int note) throws IndexOutOfBoundsException, IllegalArgumentException",
+        "public int drop() throws IllegalStateException",
+        "public boolean setKey(boolean minor)",
+        "public int setWeight(int fault, int weight) throws IndexOutOfBoundsException, IllegalArgumentException",
+        "public int lead(int chord) throws IndexOutOfBoundsException, IllegalStateException",
+        "public int leadAll()",
+        "// ---- what there is.",
+        "public int note(int chord, int voice) throws IndexOutOfBoundsException",
+        "public int told(int chord, int what) throws IndexOutOfBoundsException",
+        "public int faults(int chord, int fault) throws IndexOutOfBoundsException",
+        "public int count(int what) throws IndexOutOfBoundsException",
+        "public int pitch(int note) throws IllegalArgumentException",
+        "public boolean fits(int chord, int voice, int note) "
+            + "throws IndexOutOfBoundsException, IllegalArgumentException",
+        "public int ways(int chord) throws IndexOutOfBoundsException",
+        "// ---- what would be.",
+        "public int would(int chord, int voice, int note) throws IndexOutOfBoundsException, IllegalArgumentException",
+        "public int best(int chord) throws IndexOutOfBoundsException",
+        "public int advise(int chord) throws IndexOutOfBoundsException",
+        "public double mean()",
+        "public long digest()",
+    };
+
     private static final List<String> WRONG = new ArrayList<>();
 
-    public static void main(String[] args) {
+    public static void main(String[] args) throws IOException {
         theClassIsPublicAndFinal();
         oneConstructor();
         theMethods();
         theFields();
+        asTheDocumentWritesIt();
         WRONG.forEach(System.out::println);
         System.out.println(WRONG.size() + " wrong things about the face");
         if (!WRONG.isEmpty()) {
@@ -100,6 +136,21 @@ public final class FaceTest {
             holds(Modifier.isPrivate(modifiers), field.getName() + " is private");
             holds(!Modifier.isStatic(modifiers) || Modifier.isFinal(modifiers), field.getName() + " is final");
         }
+    }
+
+    /** Its lines and its headings stand in the text of the class, in this order, and no other public ones. */
+    private static void asTheDocumentWritesIt() throws IOException {
+        List<String> found = new ArrayList<>();
+        for (String line : Source.lines()) {
+            String text = line.replaceAll("\\s*\\{$", "").trim();
+            if (text.startsWith("public ") || text.startsWith("// ---- ")) {
+                found.add(text);
+            }
+        }
+        // What is behind the last call of the face may have headings of its own.
+        int last = found.indexOf(WRITTEN[WRITTEN.length - 1]);
+        holds(found.subList(0, last + 1).equals(Arrays.asList(WRITTEN)), "the face is not written as due: " + found);
+        holds(found.stream().skip(last + 1).noneMatch(text -> text.startsWith("public ")), "and no more is public");
     }
 
     private static void holds(boolean holds, String text) {

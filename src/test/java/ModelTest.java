@@ -6,6 +6,8 @@ public final class ModelTest {
     private static final int RUNS = 400;
     private static final int CALLS = 500;
 
+    private static final int[] FAR_OFF = {Integer.MIN_VALUE, -1000, 1000, Integer.MAX_VALUE - 1, Integer.MAX_VALUE};
+
     private static int compared = 0;
     private static int wrong = 0;
 
@@ -55,14 +57,14 @@ public final class ModelTest {
 
     private static String step(FiguredBass x, Model m, Random random, boolean tame) {
         int size = m.count(0);
-        int chord = tame && size > 0 ? random.nextInt(size) : random.nextInt(15) - 1;
-        int voice = tame ? 1 + random.nextInt(3) : random.nextInt(6) - 1;
+        int chord = tame && size > 0 ? random.nextInt(size) : wild(random, 13);
+        int voice = tame ? 1 + random.nextInt(3) : wild(random, 4);
         int note = noteFor(random, voice, tame);
-        int figure = tame ? random.nextInt(6) : random.nextInt(8) - 1;
-        int bass = tame ? random.nextInt(14) : random.nextInt(16) - 1;
-        int fault = tame ? random.nextInt(8) : random.nextInt(10) - 1;
-        int what = random.nextInt(9) - 1;
-        int weight = tame ? random.nextInt(10) : random.nextInt(12) - 1;
+        int figure = tame ? random.nextInt(6) : wild(random, 6);
+        int bass = tame ? random.nextInt(14) : wild(random, 14);
+        int fault = tame ? random.nextInt(8) : wild(random, 8);
+        int what = wild(random, 7);
+        int weight = tame ? random.nextInt(10) : wild(random, 10);
         boolean minor = random.nextBoolean();
         String at = "(" + chord + ", " + voice + ", " + note + ")";
         switch (random.nextInt(26)) {
@@ -117,11 +119,16 @@ public final class ModelTest {
             int low = Model.RANGES[voice][0];
             return low + random.nextInt(Model.RANGES[voice][1] - low + 1);
         }
-        return tame ? -1 : random.nextInt(32) - 2;
+        return tame ? -1 : wild(random, 28);
+    }
+
+    /** From just below 0 to just above the highest one, and now and then as far off as can be. */
+    private static int wild(Random random, int numbers) {
+        return random.nextInt(40) > 0 ? random.nextInt(numbers + 3) - 2 : FAR_OFF[random.nextInt(FAR_OFF.length)];
     }
 
     private static String same(String call, Supplier<Object> got, Supplier<Object> due) {
-        return same(call, (Object) answer(got), answer(due));
+        return same(call, answer(got), answer(due));
     }
 
     private static String same(String call, Object got, Object due) {

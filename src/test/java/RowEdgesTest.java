@@ -1,8 +1,6 @@
 /** Promises 1 to 10: each sentence that names an edge, at the edge and on either side of it. */
 public final class RowEdgesTest {
     private static final Check CHECK = new Check();
-    private static final int[] LOWEST = {0, 5, 8, 12};
-    private static final int[] HIGHEST = {13, 14, 18, 22};
 
     public static void main(String[] args) {
         newObjectIsEmpty();
@@ -278,10 +276,10 @@ public final class RowEdgesTest {
         x.chord(0, 0);
         for (int voice = 1; voice <= 3; voice++) {
             CHECK.same("put of -1", x.put(0, voice, -1), -1);
-            CHECK.same("put of the lowest", x.put(0, voice, LOWEST[voice]), -1);
-            CHECK.same("put of the highest", x.put(0, voice, HIGHEST[voice]), LOWEST[voice]);
-            CHECK.same("put of the highest", x.put(0, voice, HIGHEST[voice]), HIGHEST[voice]);
-            CHECK.same("put of -1", x.put(0, voice, -1), HIGHEST[voice]);
+            CHECK.same("put of the lowest", x.put(0, voice, Rows.LOWEST[voice]), -1);
+            CHECK.same("put of the highest", x.put(0, voice, Rows.HIGHEST[voice]), Rows.LOWEST[voice]);
+            CHECK.same("put of the highest", x.put(0, voice, Rows.HIGHEST[voice]), Rows.HIGHEST[voice]);
+            CHECK.same("put of -1", x.put(0, voice, -1), Rows.HIGHEST[voice]);
             CHECK.same("note", x.note(0, voice), -1);
             CHECK.same("put of 13", x.put(0, voice, 13), -1);
         }
@@ -292,8 +290,8 @@ public final class RowEdgesTest {
         for (int voice = 1; voice <= 3; voice++) {
             FiguredBass x = new FiguredBass();
             x.chord(0, 0);
-            for (int note = LOWEST[voice]; note <= HIGHEST[voice]; note++) {
-                CHECK.same("put", x.put(0, voice, note), note == LOWEST[voice] ? -1 : note - 1);
+            for (int note = Rows.LOWEST[voice]; note <= Rows.HIGHEST[voice]; note++) {
+                CHECK.same("put", x.put(0, voice, note), note == Rows.LOWEST[voice] ? -1 : note - 1);
                 CHECK.same("note(0, " + voice + ")", x.note(0, voice), note);
             }
         }
@@ -319,12 +317,12 @@ public final class RowEdgesTest {
         for (int voice = 1; voice <= 3; voice++) {
             FiguredBass x = Rows.rowOf(2);
             int v = voice;
-            Edges.numbers(CHECK, x, "put(1, " + v + ", ..)", LOWEST[v], HIGHEST[v], Rows.NO_ARGUMENT,
+            Edges.numbers(CHECK, x, "put(1, " + v + ", ..)", Rows.LOWEST[v], Rows.HIGHEST[v], Rows.NO_ARGUMENT,
                 note -> x.put(1, v, note));
             for (int wrong : new int[] {-2, 0, 1, 4, 23, 27, 28}) {
                 CHECK.refused(x, "put(1, " + v + ", " + wrong + ")", Rows.NO_ARGUMENT, () -> x.put(1, v, wrong));
             }
-            CHECK.same("put(1, " + v + ", -1)", x.put(1, v, -1), HIGHEST[v]);
+            CHECK.same("put(1, " + v + ", -1)", x.put(1, v, -1), Rows.HIGHEST[v]);
             CHECK.refused(x, "put(1, " + v + ", -2)", Rows.NO_ARGUMENT, () -> x.put(1, v, -2));
         }
     }

@@ -1,8 +1,6 @@
 /** Promises 11 to 17: each sentence that names an edge, at the edge and on either side of it. */
 public final class TellsEdgesTest {
     private static final Check CHECK = new Check();
-    private static final int[] LOWEST = {0, 5, 8, 12};
-    private static final int[] HIGHEST = {13, 14, 18, 22};
 
     public static void main(String[] args) {
         noteReturnsNoneAsWell();
@@ -51,10 +49,10 @@ public final class TellsEdgesTest {
         CHECK.same("note(0, 0)", x.note(0, 0), 0);
         for (int voice = 1; voice <= 3; voice++) {
             CHECK.same("note(0, " + voice + ") at first", x.note(0, voice), -1);
-            x.put(0, voice, LOWEST[voice]);
-            CHECK.same("note(0, " + voice + "), the lowest", x.note(0, voice), LOWEST[voice]);
-            x.put(0, voice, HIGHEST[voice]);
-            CHECK.same("note(0, " + voice + "), the highest", x.note(0, voice), HIGHEST[voice]);
+            x.put(0, voice, Rows.LOWEST[voice]);
+            CHECK.same("note(0, " + voice + "), the lowest", x.note(0, voice), Rows.LOWEST[voice]);
+            x.put(0, voice, Rows.HIGHEST[voice]);
+            CHECK.same("note(0, " + voice + "), the highest", x.note(0, voice), Rows.HIGHEST[voice]);
             x.put(0, voice, -1);
             CHECK.same("note(0, " + voice + "), none again", x.note(0, voice), -1);
         }
@@ -335,13 +333,13 @@ public final class TellsEdgesTest {
     private static void fitsTheRangeOfTheVoice() {
         CHECK.sentence("16: Returns whether it is one of this voice");
         for (int voice = 1; voice <= 3; voice++) {
-            for (int edge : new int[] {LOWEST[voice], HIGHEST[voice]}) {
+            for (int edge : new int[] {Rows.LOWEST[voice], Rows.HIGHEST[voice]}) {
                 for (int note = edge - 2; note <= edge + 2; note++) {
                     // The note is as the bass, or some octaves away: it belongs to the chord.
                     FiguredBass x = new FiguredBass();
                     x.chord(note % 7, 0);
                     CHECK.same("bass " + note % 7 + ", fits(0, " + voice + ", " + note + ")",
-                        x.fits(0, voice, note), note >= LOWEST[voice] && note <= HIGHEST[voice]);
+                        x.fits(0, voice, note), note >= Rows.LOWEST[voice] && note <= Rows.HIGHEST[voice]);
                 }
             }
         }

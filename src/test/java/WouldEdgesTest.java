@@ -3,8 +3,6 @@ import java.math.BigInteger;
 /** Promises 18 to 22: each sentence that names an edge, at the edge and on either side of it. */
 public final class WouldEdgesTest {
     private static final Check CHECK = new Check();
-    private static final int[] LOWEST = {0, 5, 8, 12};
-    private static final int[] HIGHEST = {13, 14, 18, 22};
 
     public static void main(String[] args) {
         wouldTellsWhatPutWouldDo();
@@ -44,10 +42,10 @@ public final class WouldEdgesTest {
             for (int voice = 1; voice <= 3; voice++) {
                 FiguredBass x = Rows.someRow();
                 wouldIsAsPut(x, chord, voice, -1);
-                wouldIsAsPut(x, chord, voice, LOWEST[voice]);
-                wouldIsAsPut(x, chord, voice, LOWEST[voice] + 1);
-                wouldIsAsPut(x, chord, voice, HIGHEST[voice] - 1);
-                wouldIsAsPut(x, chord, voice, HIGHEST[voice]);
+                wouldIsAsPut(x, chord, voice, Rows.LOWEST[voice]);
+                wouldIsAsPut(x, chord, voice, Rows.LOWEST[voice] + 1);
+                wouldIsAsPut(x, chord, voice, Rows.HIGHEST[voice] - 1);
+                wouldIsAsPut(x, chord, voice, Rows.HIGHEST[voice]);
             }
         }
     }
@@ -86,10 +84,10 @@ public final class WouldEdgesTest {
                 int v = voice;
                 int last = size - 1;
                 CHECK.changesNothing(x, "would of none", () -> x.would(last, v, -1));
-                CHECK.changesNothing(x, "would of the lowest", () -> x.would(0, v, LOWEST[v]));
-                CHECK.changesNothing(x, "would of the highest", () -> x.would(last, v, HIGHEST[v]));
+                CHECK.changesNothing(x, "would of the lowest", () -> x.would(0, v, Rows.LOWEST[v]));
+                CHECK.changesNothing(x, "would of the highest", () -> x.would(last, v, Rows.HIGHEST[v]));
                 x.put(last, v, -1);
-                CHECK.changesNothing(x, "would where none is", () -> x.would(last, v, HIGHEST[v]));
+                CHECK.changesNothing(x, "would where none is", () -> x.would(last, v, Rows.HIGHEST[v]));
                 CHECK.same("note, still none", x.note(last, v), -1);
             }
         }
@@ -113,7 +111,7 @@ public final class WouldEdgesTest {
         for (int voice = 1; voice <= 3; voice++) {
             FiguredBass x = Rows.rowOf(2);
             int v = voice;
-            Edges.numbers(CHECK, x, "would(1, " + v + ", ..)", LOWEST[v], HIGHEST[v], Rows.NO_ARGUMENT,
+            Edges.numbers(CHECK, x, "would(1, " + v + ", ..)", Rows.LOWEST[v], Rows.HIGHEST[v], Rows.NO_ARGUMENT,
                 note -> x.would(1, v, note));
             CHECK.taken("would(1, " + v + ", -1)", () -> x.would(1, v, -1));
             for (int wrong : new int[] {-2, 0, 1, 4, 23, 27, 28}) {

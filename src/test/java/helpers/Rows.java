@@ -4,6 +4,10 @@ final class Rows {
     static final Class<IllegalArgumentException> NO_ARGUMENT = IllegalArgumentException.class;
     static final Class<IllegalStateException> NO_STATE = IllegalStateException.class;
 
+    /** The notes of each voice, by its number. */
+    static final int[] LOWEST = {0, 5, 8, 12};
+    static final int[] HIGHEST = {13, 14, 18, 22};
+
     static final int[] NO_INTS = {Integer.MIN_VALUE, -1000, Integer.MAX_VALUE, 1000};
 
     private Rows() {
